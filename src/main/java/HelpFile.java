@@ -392,9 +392,8 @@ public final class HelpFile {
 
         /** The letters from start on up to finish or the first other sign. */
         static long word(Row row, int start, int finish) {
-            int behind = lettersEnd(row, start, finish);
             long word = 0;
-            for (int k = start; k < behind; k++) {
+            for (int k = start; k < finish && isLetter(row.element(k)); k++) {
                 word = extended(word, k - start, row.element(k));
             }
             return word;
@@ -571,7 +570,6 @@ public final class HelpFile {
             topics = 0;
             bodies.shorten(0);
             keywords.clear();
-            words.clear();
         }
 
         int topics() {
@@ -873,9 +871,13 @@ public final class HelpFile {
                 int sign = source.element(k);
                 if (sign == BLANK) {
                     blankDue = inParagraph;
+                    continue;
+                }
+                appendDueBlank();
+                if (sign == '[') {
+                    k = readLink(k, finish);
                 } else {
-                    appendDueBlank();
-                    k = sign == '[' ? readLink(k, finish) : readSign(k);
+                    readSign(sign);
                 }
             }
         }
@@ -888,9 +890,7 @@ public final class HelpFile {
             inParagraph = true;
         }
 
-        /** Reads the sign at k: the place of the last sign that was read. */
-        private int readSign(int k) {
-            int sign = source.element(k);
+        private void readSign(int sign) {
             if (sign == ']') {
                 blame(NO_LINK, lineNow);
             } else if (sign == '*') {
@@ -899,10 +899,9 @@ public final class HelpFile {
             } else {
                 book.append(sign);
             }
-            return k;
         }
 
-        /** Reads the link that begins at k: the place of the last sign that was read. */
+        /** Reads the link that begins at k: the place of its ], or k if it is none. */
         private int readLink(int k, int finish) {
             int behind = Letters.lettersEnd(source, k + 1, finish);
             boolean isLink = behind < finish && source.element(behind) == ']'

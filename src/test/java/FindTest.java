@@ -92,9 +92,13 @@ public final class FindTest {
         keyword(file, "k", 0, 0);
     }
 
+    /** A new object each time, so that none is used for too many calls. */
+    private static void searched(String source, String query, int due) {
+        CHECK.same("search() of " + query, Use.search(Use.opened(source), query), due);
+    }
+
     private static void searching() {
-        HelpFile file = Use.opened("#a\nRed green *bl*ue [c]\n#b\ngreen x1y\n#c\nred "
-                + "abcdefghijklmnop");
+        String source = "#a\nRed green *bl*ue [c]\n#b\ngreen x1y\n#c\nred abcdefghijklmnop";
         String[] queries = {"red", "RED", " red ", "green", "bl", "ue", "blue", "c", "x", "y", "xy",
             "abcdefghijkl", "abcdefghijklzzzzzz", "abcdefghijk", "red&green", "red|green",
             "red | x", "!red", "!!red", "! ! ! red", "!(red|green)", "!red&green", "!(red & green)",
@@ -106,7 +110,7 @@ public final class FindTest {
             7, 2, 3, 0, 7, 5,
             5, 7, 0, 7};
         for (int k = 0; k < queries.length; k++) {
-            CHECK.same("search() of " + queries[k], Use.search(file, queries[k]), due[k]);
+            searched(source, queries[k], due[k]);
         }
         HelpFile ten = Use.opened("#a\n#b\n#c\n#d\n#e\n#f\n#g\n#h\n#i\n#j\nx");
         CHECK.same("ten topics", Use.search(ten, "!x"), 511);
@@ -114,7 +118,7 @@ public final class FindTest {
     }
 
     private static void places() {
-        HelpFile file = Use.opened("#a\nx");
+        String source = "#a\nx";
         String[] queries = {"", " ", "   ", "x y", "x  y", "&", "|x", "x&", "x & ", "x&&x", "x|",
             "x!", "x!x", "!", "!!", "!&", "(", "()", "(x", "(x ", "x)", "(x))", "(x)x", "(x)(x)",
             "(x)!x", "x(", "1", "x1", "x&1", "x,y", "*", "x&|", "((x)", "(x|)", "(x&!)", "!)", "x |",
@@ -124,15 +128,15 @@ public final class FindTest {
             3, 1, 0, 1, 2, 1, 0, 2, 4, 3, 4, 1, 3,
             0, 0};
         for (int k = 0; k < queries.length; k++) {
-            CHECK.same("search() of " + queries[k], Use.search(file, queries[k]), -1 - places[k]);
+            searched(source, queries[k], -1 - places[k]);
         }
-        CHECK.same("40 open", Use.search(file, Use.repeat("(", 40)), -41);
-        CHECK.same("40 not", Use.search(file, Use.repeat("!", 40)), -41);
-        CHECK.same("39 not", Use.search(file, Use.repeat("!", 39) + "x"), 0);
-        CHECK.same("38 not", Use.search(file, Use.repeat("!", 38) + "x"), 1);
-        CHECK.same("19 deep", Use.search(file, Use.repeat("(", 19) + "x" + Use.repeat(")", 19)), 1);
-        CHECK.same("one short", Use.search(file, Use.repeat("(", 20) + "x" + Use.repeat(")", 19)), -41);
-        CHECK.same("one over", Use.search(file, Use.repeat("(", 19) + "x" + Use.repeat(")", 20)), -40);
+        searched(source, Use.repeat("(", 40), -41);
+        searched(source, Use.repeat("!", 40), -41);
+        searched(source, Use.repeat("!", 39) + "x", 0);
+        searched(source, Use.repeat("!", 38) + "x", 1);
+        searched(source, Use.repeat("(", 19) + "x" + Use.repeat(")", 19), 1);
+        searched(source, Use.repeat("(", 20) + "x" + Use.repeat(")", 19), -41);
+        searched(source, Use.repeat("(", 19) + "x" + Use.repeat(")", 20), -40);
     }
 
     private static void queryEnds() {

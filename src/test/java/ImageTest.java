@@ -10,6 +10,7 @@ public final class ImageTest {
         longPlainPieces();
         tree();
         index();
+        biggest();
         bounds();
         CHECK.finish("ImageTest");
     }
@@ -143,6 +144,25 @@ public final class ImageTest {
                 + " 12 97 98 99 100 101 102 103 104 105 106 107 108 2 0 1"
                 + " 1 121 1 0"
                 + " 1 122 3 0 1 2");
+    }
+
+    /** Ten topics full of words of two letters: hardly any source has a longer image. */
+    private static void biggest() {
+        StringBuilder source = new StringBuilder();
+        int word = 0;
+        for (char name = 'a'; name <= 'j'; name++) {
+            source.append('#').append(name).append('\n');
+            for (int k = 0; k < (name == 'j' ? 24 : 22); k++) {
+                source.append(k == 0 ? "" : "-");
+                source.append((char) ('a' + word / 26)).append((char) ('a' + word % 26));
+                word += 3;
+            }
+            source.append('\n');
+        }
+        int[] image = Use.image(source.toString());
+        CHECK.yes("the biggest is big", image.length > 1850);
+        CHECK.same("the biggest", told(image), told(Model.of(source.toString()).image));
+        CHECK.yes("open() of the biggest", Use.compiled(source.toString()).open());
     }
 
     private static void bounds() {
