@@ -7,12 +7,20 @@ final class Check {
 
     private int asked = 0;
     private int wrong = 0;
+    private int sentences = 0;
+    private String sentence = "";
+
+    /** The document's words that the next answers are about: they are told with a wrong one. */
+    void sentence(String words) {
+        sentences++;
+        sentence = "\"" + words + "\": ";
+    }
 
     void same(String what, long got, long due) {
         asked++;
         if (got != due) {
             wrong++;
-            System.out.println(what + " answered " + got + ", due is " + due);
+            System.out.println(sentence + what + " answered " + got + ", due is " + due);
         }
     }
 
@@ -20,8 +28,13 @@ final class Check {
         asked++;
         if (!got.equals(due)) {
             wrong++;
-            System.out.println(what + " answered <" + got + ">, due is <" + due + ">");
+            System.out.println(sentence + what + " answered <" + shortened(got) + ">, due is <"
+                    + shortened(due) + ">");
         }
+    }
+
+    private static String shortened(String text) {
+        return text.length() <= 400 ? text : text.substring(0, 400) + " ..";
     }
 
     void yes(String what, boolean got) {
@@ -44,7 +57,8 @@ final class Check {
     }
 
     void finish(String test) {
-        System.out.println(test + ": " + asked + " answers, " + wrong + " wrong");
+        String about = sentences == 0 ? "" : " to " + sentences + " sentences";
+        System.out.println(test + ": " + asked + " answers" + about + ", " + wrong + " wrong");
         if (wrong != 0) {
             System.exit(1);
         }

@@ -33,6 +33,16 @@ final class Model {
         return model;
     }
 
+    /** The image of whatever parts, be they those of a source or not. */
+    static int[] imageOf(List<String> names, List<String> bodies, TreeMap<String, Integer> keywords) {
+        Model model = new Model("");
+        model.names.addAll(names);
+        model.bodies.addAll(bodies);
+        model.keywords.putAll(keywords);
+        model.write();
+        return model.image;
+    }
+
     // ---- the source
 
     private void translate() {

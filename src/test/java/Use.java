@@ -1,7 +1,12 @@
+import java.util.HashMap;
+import java.util.Map;
+
 /** Whole texts for calls that take a few signs at a time. */
 final class Use {
     /** No object is used for more calls than the document allows. */
     private static final int READS_PER_OBJECT = 300;
+    /** Sources by the length of their images, as they have been found. */
+    private static final Map<Integer, String> SOURCES = new HashMap<>();
 
     private Use() {
     }
@@ -51,6 +56,72 @@ final class Use {
         return image;
     }
 
+    static String told(int[] bytes, int start, int finish) {
+        StringBuilder text = new StringBuilder();
+        for (int k = start; k < finish; k++) {
+            text.append(k == start ? "" : " ").append(bytes[k]);
+        }
+        return text.toString();
+    }
+
+    /** Where the packed body of a topic begins; for the number of topics: where the tree begins. */
+    static int packedStart(int[] image, int topic) {
+        int start = 2 + 10 * image[1];
+        for (int k = 0; k < topic; k++) {
+            start += image[10 + 10 * k] + 256 * image[11 + 10 * k];
+        }
+        return start;
+    }
+
+    /** The packed body of a topic. */
+    static String packed(String source, int topic) {
+        int[] image = image(source);
+        return told(image, packedStart(image, topic), packedStart(image, topic + 1));
+    }
+
+    /** The bytes of the tree and of the index. */
+    static String behindBodies(String source) {
+        int[] image = image(source);
+        return told(image, packedStart(image, image[1]), image.length - 2);
+    }
+
+    /** The body of a topic, unpacked. */
+    static String body(String source, int topic) {
+        int[] image = image(source);
+        int[] body = new int[image[8 + 10 * topic] + 256 * image[9 + 10 * topic]];
+        int length = 0;
+        int k = packedStart(image, topic);
+        while (k < packedStart(image, topic + 1)) {
+            int head = image[k];
+            int bytes = head < 128 ? head + 1 : head - 125;
+            for (int j = 0; j < bytes; j++) {
+                body[length] = head < 128 ? image[k + 1 + j] : body[length - image[k + 1]];
+                length++;
+            }
+            k += head < 128 ? 1 + bytes : 2;
+        }
+        return told(body, 0, length);
+    }
+
+    /** Topics a, b, c .. with nothing in them, a line each. */
+    static String topics(int count) {
+        StringBuilder source = new StringBuilder();
+        for (int k = 0; k < count; k++) {
+            source.append('#').append((char) ('a' + k)).append('\n');
+        }
+        return source.toString();
+    }
+
+    /** So many signs, none of them a letter, in which no row of three stands twice. */
+    static String different(int count) {
+        StringBuilder text = new StringBuilder();
+        for (int k = 0; text.length() < count; k++) {
+            text.append((char) ('0' + k % 10)).append((char) ('+' + k / 10 % 5));
+            text.append((char) (k < 50 ? '=' : '>'));
+        }
+        return text.substring(0, count);
+    }
+
     static void type(HelpFile file, String query) {
         for (int k = 0; k < query.length(); k++) {
             file.type(query.charAt(k));
@@ -97,6 +168,43 @@ final class Use {
         int sum = file.at(length - 2) + 256 * file.at(length - 1) + file.at(k) - before;
         file.spoil(length - 2, sum);
         file.spoil(length - 1, sum >> 8);
+    }
+
+    /** An object whose image has been spoilt, byte by byte, until it is this one. */
+    static HelpFile turnedInto(int[] image) {
+        HelpFile file = compiled(SOURCES.computeIfAbsent(image.length, Use::sourceOfImage));
+        for (int k = 0; k < image.length; k++) {
+            file.spoil(k, image[k]);
+        }
+        return file;
+    }
+
+    /** A source whose image has so many bytes: a second topic fills gaps between pieces. */
+    private static String sourceOfImage(int length) {
+        for (int signs = 0; signs < 500; signs++) {
+            int first = Math.min(signs, 250);
+            String one = "#a\n" + different(signs);
+            String two = "#a\n" + different(first) + "\n#b\n" + different(signs - first);
+            for (String source : new String[] {one, two}) {
+                HelpFile file = withSource(source);
+                if (file.compile() == 0 && file.at(-1) == length) {
+                    return source;
+                }
+            }
+        }
+        throw new AssertionError("no source has an image of " + length + " bytes");
+    }
+
+    /** Makes the last two bytes the sum of those before. */
+    static int[] mended(int[] image) {
+        int[] bytes = image.clone();
+        int sum = 0;
+        for (int k = 0; k < bytes.length - 2; k++) {
+            sum += bytes[k];
+        }
+        bytes[bytes.length - 2] = sum % 256;
+        bytes[bytes.length - 1] = sum / 256 % 256;
+        return bytes;
     }
 
     static String repeat(String text, int times) {
