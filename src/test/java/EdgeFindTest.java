@@ -24,6 +24,7 @@ public final class EdgeFindTest {
         everyPlace();
         parentheses();
         searchEmptiesTheQuery();
+        searchesAreApart();
         CHECK.finish("EdgeFindTest");
     }
 
@@ -394,5 +395,21 @@ public final class EdgeFindTest {
             CHECK.same("search() of that alone", file.search(), 1);
         }
         CHECK.same("search() of nothing", file.search(), -1);
+    }
+
+    /** What a query that broke off has left must not reach the next one. */
+    private static void searchesAreApart() {
+        CHECK.sentence("the query is empty then");
+        String[] brokenOff = {"!", "(!", "((!", "a&!", "a|!", "!(", "!((!(", "a&", "a|", "(a|(b&", "!a)"};
+        String[] next = {"a", "(a)", "((a))", "(((a)))", "!a", "(!a)"};
+        int[] due = {10, 10, 10, 10, 5, 5};
+        for (String broken : brokenOff) {
+            HelpFile file = Use.opened(FOUR);
+            for (int k = 0; k < next.length; k++) {
+                CHECK.yes("search() of " + broken, Use.search(file, broken) < 0);
+                CHECK.same("search() of " + next[k] + " behind it", Use.search(file, next[k]), due[k]);
+                CHECK.same("and of nothing behind that", file.search(), -1);
+            }
+        }
     }
 }

@@ -16,6 +16,7 @@ public final class EdgeImageTest {
         mostKeywords();
         index();
         orderOfWords();
+        mostWords();
         places();
         noImage();
         spoiling();
@@ -245,6 +246,31 @@ public final class EdgeImageTest {
                 "0 2 0 12" + eleven + " 121 1 0 12" + eleven + " 122 1 0");
         CHECK.same("capitals and small ones", Use.behindBodies("#a\nB a C"),
                 "0 3 0 1 97 1 0 1 98 1 0 1 99 1 0");
+    }
+
+    /** No source has more: 26 words of one letter and 213 of two, in 699 signs. */
+    private static void mostWords() {
+        CHECK.sentence("INDEX: two bytes, how many words");
+        StringBuilder text = new StringBuilder();
+        for (char one = 'a'; one <= 'z'; one++) {
+            text.append(one).append('-');
+        }
+        for (int k = 0; k < 213; k++) {
+            text.append(word(k)).append('-');
+        }
+        String source = "#a\n" + text.substring(0, 252) + "\n#b\n" + text.substring(253, 504) + "\n#c\n"
+                + text.substring(505, text.length() - 1);
+        CHECK.same("signs", source.length(), 699);
+        int[] image = Use.image(source);
+        int start = Use.packedStart(image, 3) + 1;
+        CHECK.same("239 words", Use.told(image, start, start + 2), "239 0");
+        CHECK.same("the whole image", Use.told(image, 0, image.length),
+                Use.told(Model.of(source).image, 0, image.length));
+        HelpFile file = Use.opened(source);
+        CHECK.same("the first word", Use.search(file, "a"), 1);
+        CHECK.same("the last word", Use.search(file, "z"), 1);
+        CHECK.same("the last of two letters", Use.search(file, word(212)), 4);
+        CHECK.same("one behind it", Use.search(file, word(213)), 0);
     }
 
     private static void places() {

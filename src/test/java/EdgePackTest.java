@@ -176,6 +176,13 @@ public final class EdgePackTest {
         String source = "#a\nabcdef\n#b\nabcdef";
         CHECK.same("the first body", Use.packed(source, 0), "6 97 98 99 100 101 102 10");
         CHECK.same("a second one like it", Use.packed(source, 1), "6 97 98 99 100 101 102 10");
+        String goesOn = "#a\nab\n\nab\n#b\nabab";
+        CHECK.same("a row that would go on in the next body", Use.packed(goesOn, 0),
+                "2 97 98 10 128 3");
+        CHECK.same("the next body", Use.packed(goesOn, 1), "4 97 98 97 98 10");
+        String same = "#a\n" + Use.repeat("z", 10) + "\n#b\n" + Use.repeat("z", 10);
+        CHECK.same("like bytes", Use.packed(same, 0), "0 122 134 1 0 10");
+        CHECK.same("like bytes again", Use.packed(same, 1), "0 122 134 1 0 10");
     }
 
     private static void marksArePackedToo() {

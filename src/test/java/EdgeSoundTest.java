@@ -365,7 +365,7 @@ public final class EdgeSoundTest {
         opens(what, Use.mended(other), due);
     }
 
-    /** No 512 calls make an image with more than some 200 keywords: so it is set from inside. */
+    /** We know of no 512 calls that make such an image: so it is set from inside. */
     private static void howManyKeywords() {
         CHECK.sentence("An image is SOUND if it is that of a source of whatever length with at most"
                 + " 250 keywords.");

@@ -15,16 +15,8 @@ public final class ImageTest {
         CHECK.finish("ImageTest");
     }
 
-    private static String told(int[] bytes, int start, int finish) {
-        StringBuilder text = new StringBuilder();
-        for (int k = start; k < finish; k++) {
-            text.append(bytes[k]).append(' ');
-        }
-        return text.toString().trim();
-    }
-
     private static String told(int[] bytes) {
-        return told(bytes, 0, bytes.length);
+        return Use.told(bytes, 0, bytes.length);
     }
 
     private static void smallest() {
@@ -52,7 +44,7 @@ public final class ImageTest {
     private static String body(String text) {
         int[] image = Use.image("#a\n" + text);
         int length = image[8];
-        return length == 0 ? "" : told(image, 13, 13 + length);
+        return length == 0 ? "" : Use.told(image, 13, 13 + length);
     }
 
     private static void bodies() {
@@ -66,8 +58,7 @@ public final class ImageTest {
     }
 
     private static String packed(String text) {
-        int[] image = Use.image("#a\n" + text);
-        return told(image, 12, 12 + image[10] + 256 * image[11]);
+        return Use.packed("#a\n" + text, 0);
     }
 
     private static void packing() {
@@ -120,12 +111,12 @@ public final class ImageTest {
 
     private static void tree() {
         int[] five = Use.image("#a\n!e\n!aa\n!d\n!a\n!c");
-        CHECK.same("five keywords", told(five, 12, five.length - 4), "3"
+        CHECK.same("five keywords", Use.told(five, 12, five.length - 4), "3"
                 + " 4 1 97 1 0 2 97 97 1 0 1 99 1 0 1 100 1 0"
                 + " 1 1 101 1 0"
                 + " 2 0 1 97 1 1 101");
         int[] ten = Use.image("#a\n#b\n#c\n#d\n#e\n#f\n#g\n#h\n!k\n#i\n!k\n#j\n!k");
-        CHECK.same("topics as bits", told(ten, 102, ten.length - 4), "1 1 1 107 128 3");
+        CHECK.same("topics as bits", Use.told(ten, 102, ten.length - 4), "1 1 1 107 128 3");
         int[] counts = {1, 4, 5, 8, 15, 16, 17, 32, 63, 64, 65, 130, 174};
         int[] nodes = {1, 1, 3, 3, 5, 5, 8, 11, 21, 21, 25, 46, 59};
         for (int k = 0; k < counts.length; k++) {
@@ -139,7 +130,7 @@ public final class ImageTest {
     private static void index() {
         int[] image = Use.image("#a\nAbc abc1z*y*[b] abcdefghijklm\n#b\nz abcdefghijklx\n#c\n#d\nZ-");
         int start = 42 + image[10] + image[20] + image[30] + image[40] + 1;
-        CHECK.same("the index", told(image, start, image.length - 2), "4 0"
+        CHECK.same("the index", Use.told(image, start, image.length - 2), "4 0"
                 + " 3 97 98 99 1 0"
                 + " 12 97 98 99 100 101 102 103 104 105 106 107 108 2 0 1"
                 + " 1 121 1 0"

@@ -331,13 +331,19 @@ final class Model {
     // ---- whether an image is sound: by the very source that would have to be its own
 
     static boolean isSound(int[] image) {
+        return ofImage(image) != null;
+    }
+
+    /** What an image holds; null if it isn't sound. */
+    static Model ofImage(int[] image) {
         try {
             String source = sourceOf(image);
             Model model = Model.of(source);
-            return source.matches("[ -~\n]*") && model.kind == 0 && model.keywords.size() <= 250
-                    && Arrays.equals(model.image, image);
+            boolean isSound = source.matches("[ -~\n]*") && model.kind == 0
+                    && model.keywords.size() <= 250 && Arrays.equals(model.image, image);
+            return isSound ? model : null;
         } catch (IndexOutOfBoundsException e) {
-            return false;
+            return null;
         }
     }
 
@@ -520,8 +526,8 @@ final class Model {
 
     // ---- showing
 
-    /** All lines of a topic in a width, a / behind each. */
-    String shown(int topic, int width) {
+    /** All lines of a topic in a width. */
+    List<String> shown(int topic, int width) {
         List<String> out = new ArrayList<>();
         for (String paragraph : bodies.get(topic).split("(?<=\n)")) {
             if (paragraph.isEmpty()) {
@@ -534,9 +540,17 @@ final class Model {
             String text = links.replaceAll(m -> "[" + names.get(m.group(1).charAt(0)) + "]");
             out.addAll(filled(text.replace("\n", "").replace("\1", ""), width));
         }
-        StringBuilder all = new StringBuilder();
-        out.forEach(l -> all.append(l).append('/'));
-        return all.toString();
+        return out;
+    }
+
+    /** The topics that the links of a topic lead to. */
+    List<Integer> links(int topic) {
+        List<Integer> out = new ArrayList<>();
+        Matcher links = Pattern.compile("\2(.)").matcher(bodies.get(topic));
+        while (links.find()) {
+            out.add((int) links.group(1).charAt(0));
+        }
+        return out;
     }
 
     private static List<String> filled(String text, int width) {

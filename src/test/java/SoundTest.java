@@ -147,37 +147,13 @@ public final class SoundTest {
             source.append("#").append(name).append("\n").append(Use.repeat("" + name, 254)).append("\n");
         }
         int[] image = Model.of(source.toString()).image;
-        HelpFile file = ofLength(image.length);
-        for (int k = 0; k < image.length; k++) {
-            file.spoil(k, image[k]);
-        }
+        HelpFile file = Use.turnedInto(image);
         CHECK.yes("open() of an image of a long source", file.open());
         CHECK.same("its topics", file.about(1), 10);
         CHECK.same("its bodies", file.about(5), 255);
         CHECK.same("its lines", file.show(40), 7);
         file.spoil(image.length - 3, 1);
         CHECK.no("open() of a spoilt one", file.open());
-    }
-
-    /** A second topic's name and body fill the gap where a new piece begins. */
-    private static HelpFile ofLength(int length) {
-        for (int signs = 0; signs < 500; signs++) {
-            int first = Math.min(signs, 250);
-            String source = "#a\n" + digits(first) + "\n#b\n" + digits(signs - first);
-            Model model = Model.of(source);
-            if (model.kind == 0 && model.image.length == length) {
-                return Use.compiled(source);
-            }
-        }
-        throw new AssertionError("no source has such an image");
-    }
-
-    private static String digits(int count) {
-        StringBuilder text = new StringBuilder();
-        for (int k = 0; text.length() < count; k++) {
-            text.append((char) ('0' + k % 10)).append((char) ('+' + k / 10));
-        }
-        return text.substring(0, count);
     }
 
     private static void whatIsOpenStays() {

@@ -5,8 +5,9 @@ import java.util.Map;
 final class Use {
     /** No object is used for more calls than the document allows. */
     private static final int READS_PER_OBJECT = 300;
-    /** Sources by the length of their images, as they have been found. */
+    /** Sources by the length of their images, as they have been found, and these images. */
     private static final Map<Integer, String> SOURCES = new HashMap<>();
+    private static final Map<Integer, int[]> IMAGES = new HashMap<>();
 
     private Use() {
     }
@@ -172,9 +173,13 @@ final class Use {
 
     /** An object whose image has been spoilt, byte by byte, until it is this one. */
     static HelpFile turnedInto(int[] image) {
-        HelpFile file = compiled(SOURCES.computeIfAbsent(image.length, Use::sourceOfImage));
+        String source = SOURCES.computeIfAbsent(image.length, Use::sourceOfImage);
+        int[] before = IMAGES.computeIfAbsent(image.length, length -> image(source));
+        HelpFile file = compiled(source);
         for (int k = 0; k < image.length; k++) {
-            file.spoil(k, image[k]);
+            if (image[k] != before[k]) {
+                file.spoil(k, image[k]);
+            }
         }
         return file;
     }
