@@ -147,8 +147,8 @@ public final class EdgeFindTest {
     private static void nodesByKeywords() {
         CHECK.sentence("from the root on, in each the last entry whose keyword isn't behind the one"
                 + " looked for (none further if there is none)");
-        int[] counts = {1, 3, 4, 5, 15, 16, 17, 63, 64, 65, 150};
-        int[] rows = {1, 1, 1, 2, 2, 2, 3, 3, 3, 4, 4};
+        int[] counts = {1, 3, 4, 5, 8, 12, 15, 16, 17, 32, 48, 63, 64, 65, 128, 150};
+        int[] rows = {1, 1, 1, 2, 2, 2, 2, 2, 3, 3, 3, 3, 3, 4, 4, 4};
         for (int k = 0; k < counts.length; k++) {
             StringBuilder source = new StringBuilder("#a\n");
             for (int word = 0; word < counts[k]; word++) {

@@ -14,6 +14,7 @@ public final class EdgeSoundTest {
         longSources();
         howManyTopics();
         lettersOfNames();
+        namesOfSix();
         namesAgain();
         signsOfBodies();
         endsOfBodies();
@@ -99,6 +100,17 @@ public final class EdgeSoundTest {
             opens("a name's second letter " + b, named("a" + (char) b), isSmall || b == 0);
             opens("a name's sixth letter " + b, named("abcde" + (char) b), isSmall || b == 0);
             opens("a byte behind a name's end " + b, named("abcd\0" + (char) b), b == 0);
+        }
+    }
+
+    /** The byte behind a name's six letters is no letter of it, even if it has a letter's number. */
+    private static void namesOfSix() {
+        CHECK.sentence("of each topic its name in six bytes (0 behind it)");
+        for (int length = 'a' - 1; length <= 'z' + 1; length++) {
+            HelpFile file = Use.compiled("#abcdef\n" + Use.different(length - 4) + "\n\n[abcdef]");
+            CHECK.same("the byte behind the name", file.at(8), length);
+            CHECK.yes("open() with a body of " + length, file.open());
+            CHECK.same("its link", file.follow(0), 0);
         }
     }
 

@@ -10,6 +10,7 @@ public final class EdgeVisitTest {
         openingAgain();
         whatWasOpenStays();
         asTheImageWasThen();
+        nothingIsLeft();
         jumpsInside();
         jumpToTheSame();
         linksInside();
@@ -112,6 +113,32 @@ public final class EdgeVisitTest {
         CHECK.same("its keywords", Use.keyword(file, "l"), 1);
         CHECK.same("no others", Use.keyword(file, "k"), 0);
         CHECK.fails("jump(1)", NO_SUCH, () -> file.jump(1));
+    }
+
+    /** Images with less and less in them, each opened twice: what is gone isn't found. */
+    private static void nothingIsLeft() {
+        CHECK.sentence("The VIEWER has the image that was opened last, and is at one of its topics.");
+        HelpFile file = new HelpFile();
+        String[] words = {"e", "d", "c", "b", "a"};
+        for (int left = 5; left >= 0; left--) {
+            file.end(0);
+            Use.feed(file, "#t\n");
+            for (int k = 5 - left; k < 5; k++) {
+                Use.feed(file, "!" + words[k] + "\n" + words[k] + "\n");
+            }
+            CHECK.same("compile()", file.compile(), 0);
+            CHECK.yes("open()", file.open());
+            CHECK.yes("open() again", file.open());
+            for (int k = 0; k < 5; k++) {
+                int due = k < 5 - left ? 0 : 1;
+                CHECK.same("word " + words[k] + ", " + left + " left", Use.search(file, words[k]), due);
+                CHECK.same("keyword " + words[k] + ", " + left + " left",
+                        Use.keyword(file, words[k]), due);
+                CHECK.same("nodes then", file.visited(), left == 5 ? 2 : left == 0 ? 0 : 1);
+            }
+            CHECK.same("the body's length", file.about(5), 2 * left);
+            CHECK.same("lines", file.show(4), left == 0 ? 0 : 2 * left - 1);
+        }
     }
 
     private static void jumpsInside() {
