@@ -118,7 +118,7 @@ final class Use {
         StringBuilder text = new StringBuilder();
         for (int k = 0; text.length() < count; k++) {
             text.append((char) ('0' + k % 10)).append((char) ('+' + k / 10 % 5));
-            text.append((char) (k < 50 ? '=' : '>'));
+            text.append(k < 50 ? '=' : '>');
         }
         return text.substring(0, count);
     }
